@@ -1,0 +1,110 @@
+import java.util.Arrays;
+
+/** Parliaments for the tests, and all that can be asked of one. */
+final class Scene {
+    static final int INVALID = StringVotes.INVALID_ARGUMENT;
+    static final int IMPOSSIBLE = StringVotes.NOT_POSSIBLE;
+    static final int LIMIT = StringVotes.LIMIT_REACHED;
+    static final int NOTHING = StringVotes.NOT_FOUND;
+    static final int[] COUNTS = {0, 1, 2, 3, 4, 5, 6, 7, 8, 9, 10, 11, 12, 13, 14, 15, 20};
+
+    private Scene() {
+    }
+
+    /** Puppets told as seats and leanings in turns. */
+    static StringVotes puppets(int... seatsAndLeanings) {
+        StringVotes x = new StringVotes();
+        for (int i = 0; i + 1 < seatsAndLeanings.length; i += 2) {
+            x.puppet(seatsAndLeanings[i], seatsAndLeanings[i + 1]);
+        }
+        return x;
+    }
+
+    static StringVotes alike(int howMany, int seats, int leaning) {
+        StringVotes x = new StringVotes();
+        for (int i = 0; i < howMany; i++) {
+            x.puppet(seats, leaning);
+        }
+        return x;
+    }
+
+    /** Twelve puppets with 20 strings, in the deals 0 to 5 in turns, one group. */
+    static StringVotes full() {
+        StringVotes x = alike(12, 1, 0);
+        for (int i = 0; i < 11; i++) {
+            x.tie(i, i + 1, false, i % 6);
+        }
+        for (int i = 0; i < 9; i++) {
+            x.tie(i, i + 2, false, (11 + i) % 6);
+        }
+        return x;
+    }
+
+    static void write(StringVotes x, String text) {
+        for (int i = 0; i < text.length(); i++) {
+            x.type(text.charAt(i));
+        }
+    }
+
+    static void rewrite(StringVotes x, String text) {
+        x.clearText();
+        write(x, text);
+    }
+
+    /** The votes of all puppets as a set. */
+    static int votes(StringVotes x) {
+        int set = 0;
+        for (int puppet = 0; puppet < x.count(0); puppet++) {
+            set |= x.puppetOf(puppet, 3) << puppet;
+        }
+        return set;
+    }
+
+    /** All that the questions tell, but for the history and the text where this is wanted. */
+    static int[] all(StringVotes x, boolean withHistory) {
+        int[] told = new int[2000];
+        int size = 0;
+        for (int what : COUNTS) {
+            told[size++] = (what == 13 || what == 14) && !withHistory ? 0 : x.count(what);
+        }
+        for (int puppet = 0; puppet < 12; puppet++) {
+            for (int what = 0; what <= 8; what++) {
+                told[size++] = x.puppetOf(puppet, what);
+            }
+            told[size++] = x.whyPull(puppet, 0);
+            told[size++] = x.whyPull(puppet, 1);
+            for (int other = 0; other < 12; other++) {
+                told[size++] = x.between(puppet, other);
+                told[size++] = x.whyTie(puppet, other, true);
+                told[size++] = x.whyTie(puppet, other, false);
+            }
+        }
+        for (int string = 0; string < 20; string++) {
+            for (int what = 0; what <= 4; what++) {
+                told[size++] = x.stringOf(string, what);
+            }
+            told[size++] = x.ifCut(string, 0);
+            told[size++] = x.ifCut(string, 1);
+        }
+        for (int ago = 0; ago < 9; ago++) {
+            for (int what = 0; what <= 3; what++) {
+                told[size++] = x.book(ago, what);
+            }
+        }
+        for (int what = 0; what <= 1; what++) {
+            told[size++] = x.bestPull(what);
+            told[size++] = x.fewest(what);
+        }
+        told[size++] = x.share();
+        if (withHistory) {
+            for (int what = 0; what <= 2; what++) {
+                told[size++] = x.fault(what);
+            }
+        }
+        return Arrays.copyOf(told, size);
+    }
+
+    static boolean same(int[] one, int[] other) {
+        return Arrays.equals(one, other);
+    }
+}
