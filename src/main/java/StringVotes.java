@@ -1016,7 +1016,10 @@ public final class StringVotes {
 
         /** Looks at every set of groups; NONE if no set is enough. */
         private int fewestOfAllSets() {
-            int fewest = ahead > 0 ? 0 : NONE;
+            if (ahead > 0) {
+                return 0;
+            }
+            int fewest = NONE;
             int reached = ahead;
             for (int set = 1; set < 1 << groups; set++) {
                 reached += stepTo(set);

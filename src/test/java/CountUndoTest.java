@@ -53,6 +53,12 @@ public final class CountUndoTest {
     }
 
     private static void promise20Groups() {
+        StringVotes apart = Scene.alike(6, 1, 0);
+        apart.tie(0, 3, true, 0);
+        apart.tie(1, 4, false, 0);
+        apart.tie(5, 2, true, 0);
+        Due.is("three groups, one in another", apart.count(2), 3);
+        Due.is("three groups, by walking", apart.count(3), 3);
         StringVotes x = Scene.alike(12, 1, 0);
         Due.is("each alone", x.count(2), 12);
         Due.is("each alone, by walking", x.count(3), 12);
@@ -85,7 +91,15 @@ public final class CountUndoTest {
         for (int kind = 0; kind < 9; kind++) {
             StringVotes x = rich();
             StringVotes same = rich();
+            // A question that tries something out ahead of the change must not get into it.
+            x.fault(0);
+            x.ifCut(0, 0);
+            x.bestPull(0);
             Due.holds("the change " + kind + " is one", change(x, kind) >= 0);
+            change(same, kind);
+            Due.holds("questions ahead of it bring nothing, " + kind,
+                Scene.same(Scene.all(x, true), Scene.all(same, true)));
+            same.undo();
             x.type('x');
             Due.is("undo of the change " + kind, x.undo(), 3);
             Due.is("the text stays, " + kind, x.count(14), 6);

@@ -28,6 +28,15 @@ public final class PullsSessionsTest {
         StringVotes evenYes = Scene.puppets(2, 0, 5, 1, 5, 0);
         evenYes.tie(2, 1, false, 0);
         Due.is("sums alike, the lowest leans to yes", Scene.votes(evenYes), 6);
+        StringVotes several = Scene.puppets(2, 0, 2, 0, 3, 1);
+        several.tie(0, 1, false, 0);
+        several.tie(1, 2, false, 0);
+        Due.is("2 and 2 against 3", Scene.votes(several), 0);
+        several.puppet(1, 1);
+        several.tie(2, 3, false, 0);
+        several.puppet(1, 1);
+        several.tie(4, 3, false, 0);
+        Due.is("2 and 2 against 3, 1 and 1", Scene.votes(several), 31);
         StringVotes unlike = Scene.puppets(5, 1, 5, 1);
         unlike.tie(0, 1, true, 0);
         Due.is("sums alike, unlike", Scene.votes(unlike), 1);

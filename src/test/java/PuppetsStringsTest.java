@@ -171,6 +171,10 @@ public final class PuppetsStringsTest {
         Due.is("all are back", x.count(1), 4);
         Due.is("the cut ones are no more", x.count(15), 0);
         Due.is("the first is back", x.stringOf(0, 3), 5);
+        Due.is("the group they made is back", x.puppetOf(4, 7), 31);
+        x.cutDeal(5);
+        Due.is("the groups part", x.puppetOf(1, 7), 6);
+        Due.is("and vote on their own", Scene.votes(x), 4);
         StringVotes zero = Scene.alike(2, 1, 0);
         zero.tie(0, 1, false, 0);
         Due.is("cutDeal(0)", zero.cutDeal(0), 1);

@@ -29,8 +29,11 @@ public final class WhatWouldBeTest {
         Due.is("unlike by the others, alike", x.whyTie(2, 0, false), 2);
         Due.is("unlike by the others, unlike", x.whyTie(2, 0, true), 0);
         Due.is("to one apart", x.whyTie(2, 3, true), 0);
+        x.tie(0, 3, true, 0);
+        Due.is("both on the side 1, alike", x.whyTie(2, 3, false), 0);
+        Due.is("both on the side 1, unlike", x.whyTie(2, 3, true), 2);
         Due.is("asking is no change", x.count(13), 4);
-        Due.is("asking ties nothing", x.count(1), 2);
+        Due.is("asking ties nothing", x.count(1), 3);
     }
 
     private static void promise14WhyTiePulls() {
@@ -137,6 +140,9 @@ public final class WhatWouldBeTest {
         }
         bothWays("9 against 28", Scene.puppets(9, 0, 9, 0, 9, 0, 9, 1, 1, 0), 2);
         bothWays("5 against 6", Scene.puppets(5, 1, 5, 0, 1, 0), 1);
+        StringVotes ones = Scene.alike(10, 1, 0);
+        ones.puppet(6, 0);
+        bothWays("6, and ones up to 9 of 16", ones, 4);
         StringVotes tied = Scene.puppets(5, 0, 4, 0, 3, 0, 3, 0);
         tied.tie(0, 1, true, 0);
         bothWays("a group that would vote both ways brings little", tied, 2);
@@ -193,6 +199,7 @@ public final class WhatWouldBeTest {
         Due.is("without puppets", new StringVotes().share(), Scene.NOTHING);
         Due.is("none", Scene.puppets(3, 0).share(), 0);
         Due.is("all", Scene.puppets(3, 1).share(), 0x3f800000);
+        Due.is("all of one seat", Scene.puppets(1, 1).share(), 0x3f800000);
         Due.is("half", Scene.puppets(3, 1, 3, 0).share(), 0x3f000000);
         Due.is("a third", Scene.puppets(3, 1, 6, 0).share(), 0x3eaaaaab);
         StringVotes small = Scene.alike(11, 9, 0);
