@@ -156,10 +156,11 @@ public final class CountUndoTest {
             Due.holds("an error: " + answer, answer < 0);
         }
         Due.holds("errors change nothing", Scene.same(before, Scene.all(x, true)));
-        Scene.rewrite(x, "v;v;p9,9;");
-        int[] faulty = Scene.all(x, true);
-        Due.is("a text with a fault", x.play(), Scene.IMPOSSIBLE);
-        Due.holds("it changes nothing", Scene.same(faulty, Scene.all(x, true)));
+        StringVotes faulty = rich();
+        Scene.rewrite(faulty, "v;v;p9,9;");
+        int[] beforePlay = Scene.all(faulty, true);
+        Due.is("a text with a fault", faulty.play(), Scene.IMPOSSIBLE);
+        Due.holds("it changes nothing", Scene.same(beforePlay, Scene.all(faulty, true)));
     }
 
     private static void questionsChangeNothing() {

@@ -3,7 +3,8 @@ import java.lang.management.ManagementFactory;
 
 /** What the calls of one object make: the room holds little, so the calls make nothing. */
 public final class RoomTest {
-    private static final int CALLS = 512;
+    /** Of some 25 calls, so that all of them with those ahead are below 512. */
+    private static final int ROUNDS = 15;
     private static final long MOST_BYTES_OF_AN_OBJECT = 40_000;
 
     private static int told = 0;
@@ -15,12 +16,12 @@ public final class RoomTest {
         Scene.write(x, "v;v;v;v;v;v;v;v;v;v;v;v;v;v;v;v;v;v;v;v;v;v;v;v;v;v;v;v;v;v;");
         all(x);
         long before = threads.getThreadAllocatedBytes(thread);
-        for (int call = 0; call < CALLS; call += 24) {
+        for (int round = 0; round < ROUNDS; round++) {
             all(x);
         }
         long calls = threads.getThreadAllocatedBytes(thread) - before;
         // The question itself may make a little.
-        Due.holds("512 calls make nothing, but made " + calls + " bytes", calls < 1000);
+        Due.holds("the calls make nothing, but made " + calls + " bytes", calls < 1000);
         before = threads.getThreadAllocatedBytes(thread);
         StringVotes another = new StringVotes();
         long object = threads.getThreadAllocatedBytes(thread) - before;

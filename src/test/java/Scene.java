@@ -1,4 +1,6 @@
+import java.util.ArrayList;
 import java.util.Arrays;
+import java.util.List;
 
 /** Parliaments for the tests, and all that can be asked of one. */
 final class Scene {
@@ -60,48 +62,51 @@ final class Scene {
         return set;
     }
 
-    /** All that the questions tell, but for the history and the text where this is wanted. */
+    /**
+     * What the questions tell; of the history and the text only where this is wanted. It takes few
+     * enough calls for two of them, as nothing is promised behind the 512th call of an object.
+     */
     static int[] all(StringVotes x, boolean withHistory) {
-        int[] told = new int[2000];
-        int size = 0;
+        List<Integer> told = new ArrayList<>();
         for (int what : COUNTS) {
-            told[size++] = (what == 13 || what == 14) && !withHistory ? 0 : x.count(what);
+            told.add((what == 13 || what == 14) && !withHistory ? 0 : x.count(what));
         }
-        for (int puppet = 0; puppet < 12; puppet++) {
+        int puppets = x.count(0);
+        for (int puppet = 0; puppet < puppets; puppet++) {
             for (int what = 0; what <= 8; what++) {
-                told[size++] = x.puppetOf(puppet, what);
+                told.add(x.puppetOf(puppet, what));
             }
-            told[size++] = x.whyPull(puppet, 0);
-            told[size++] = x.whyPull(puppet, 1);
-            for (int other = 0; other < 12; other++) {
-                told[size++] = x.between(puppet, other);
-                told[size++] = x.whyTie(puppet, other, true);
-                told[size++] = x.whyTie(puppet, other, false);
+            told.add(x.whyPull(puppet, 0));
+            told.add(x.whyPull(puppet, 1));
+            for (int other = puppet + 1; other < puppets; other++) {
+                told.add(x.between(puppet, other));
+                told.add(x.whyTie(puppet, other, true));
+                told.add(x.whyTie(puppet, other, false));
             }
         }
-        for (int string = 0; string < 20; string++) {
+        int strings = x.count(1);
+        for (int string = 0; string < strings; string++) {
             for (int what = 0; what <= 4; what++) {
-                told[size++] = x.stringOf(string, what);
+                told.add(x.stringOf(string, what));
             }
-            told[size++] = x.ifCut(string, 0);
-            told[size++] = x.ifCut(string, 1);
+            told.add(x.ifCut(string, 0));
+            told.add(x.ifCut(string, 1));
         }
-        for (int ago = 0; ago < 9; ago++) {
+        int kept = x.count(12);
+        for (int ago = 0; ago < kept; ago++) {
             for (int what = 0; what <= 3; what++) {
-                told[size++] = x.book(ago, what);
+                told.add(x.book(ago, what));
             }
         }
         for (int what = 0; what <= 1; what++) {
-            told[size++] = x.bestPull(what);
-            told[size++] = x.fewest(what);
+            told.add(x.bestPull(what));
+            told.add(x.fewest(what));
         }
-        told[size++] = x.share();
-        if (withHistory) {
-            for (int what = 0; what <= 2; what++) {
-                told[size++] = x.fault(what);
-            }
+        told.add(x.share());
+        for (int what = 0; what <= 2 && withHistory; what++) {
+            told.add(x.fault(what));
         }
-        return Arrays.copyOf(told, size);
+        return told.stream().mapToInt(Integer::intValue).toArray();
     }
 
     static boolean same(int[] one, int[] other) {
