@@ -462,7 +462,7 @@ public final class StringVotes {
             if (index < 0) {
                 return;
             }
-            for (int i = index; i + 1 < cells.length; i++) {
+            for (int i = index; i < cells.length - 1; i++) {
                 cells[i] = cells[i + 1];
             }
         }

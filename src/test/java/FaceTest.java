@@ -17,16 +17,35 @@ public final class FaceTest {
         "type(int)", "clearText()", "fault(int)", "play()"};
 
     public static void main(String[] args) {
-        Due.is("INVALID_ARGUMENT", StringVotes.INVALID_ARGUMENT, -1000001);
-        Due.is("NOT_POSSIBLE", StringVotes.NOT_POSSIBLE, -1000002);
-        Due.is("LIMIT_REACHED", StringVotes.LIMIT_REACHED, -1000003);
-        Due.is("NOT_FOUND", StringVotes.NOT_FOUND, -1000004);
+        sentences();
         Due.holds("public final", StringVotes.class.getModifiers() == (Modifier.PUBLIC | Modifier.FINAL));
         methods();
         fields();
         constructors();
         classesInside();
         Due.end("FaceTest");
+    }
+
+    static void sentences() {
+        Due.sentence(Due.ALL, "`INVALID_ARGUMENT = -1000001`: An argument is out of its range, or there is no such puppet "
+            + "or string.", () -> {
+            Due.is("INVALID_ARGUMENT", StringVotes.INVALID_ARGUMENT, -1000001);
+            Due.is("an argument", new StringVotes().puppet(0, 0), -1000001);
+            Due.is("no such puppet", new StringVotes().pull(0, 0), -1000001);
+            Due.is("no such string", new StringVotes().cut(0), -1000001);
+        });
+        Due.sentence(Due.ALL, "`NOT_POSSIBLE = -1000002`: The call is not possible in the present state.", () -> {
+            Due.is("NOT_POSSIBLE", StringVotes.NOT_POSSIBLE, -1000002);
+            Due.is("nothing to undo", new StringVotes().undo(), -1000002);
+        });
+        Due.sentence(Due.ALL, "`LIMIT_REACHED = -1000003`: A fixed limit has been reached.", () -> {
+            Due.is("LIMIT_REACHED", StringVotes.LIMIT_REACHED, -1000003);
+            Due.is("12 puppets", Scene.full().puppet(1, 0), -1000003);
+        });
+        Due.sentence(Due.ALL, "`NOT_FOUND = -1000004`: There is no such value.", () -> {
+            Due.is("NOT_FOUND", StringVotes.NOT_FOUND, -1000004);
+            Due.is("no share", new StringVotes().share(), -1000004);
+        });
     }
 
     private static void methods() {

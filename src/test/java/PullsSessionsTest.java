@@ -1,194 +1,403 @@
 /** Promises 6 to 9: pull, release, session, set. */
 public final class PullsSessionsTest {
+    private static final String THIRTY_SESSIONS = "v;v;v;v;v;v;v;v;v;v;v;v;v;v;v;v;v;v;v;v;v;v;v;v;v;v;v;v;v;v;";
+
     public static void main(String[] args) {
-        votesOfGroups();
-        promise6Pull();
-        promise6PullTurnsGroup();
-        promise6PullBound();
-        promise7Release();
-        promise8Session();
-        promise8SpeakerDecides();
-        promise8SessionLimit();
-        promise9Set();
+        sentences();
         Due.end("PullsSessionsTest");
     }
 
-    private static void votesOfGroups() {
-        StringVotes x = Scene.puppets(3, 0, 2, 1, 2, 1, 5, 0);
-        Due.is("alone all vote as they lean", Scene.votes(x), 6);
-        x.tie(0, 1, false, 0);
-        Due.is("3 against 2", Scene.votes(x), 4);
-        x.tie(0, 2, false, 0);
-        Due.is("3 against 4", Scene.votes(x), 7);
-        x.tie(0, 3, true, 0);
-        Due.is("3 against 9, one unlike", Scene.votes(x), 7);
-        StringVotes even = Scene.puppets(2, 0, 5, 0, 5, 1, 1, 1);
-        even.tie(1, 2, false, 0);
-        Due.is("sums alike, the lowest leans to no", Scene.votes(even), 8);
-        StringVotes evenYes = Scene.puppets(2, 0, 5, 1, 5, 0);
-        evenYes.tie(2, 1, false, 0);
-        Due.is("sums alike, the lowest leans to yes", Scene.votes(evenYes), 6);
-        StringVotes several = Scene.puppets(2, 0, 2, 0, 3, 1);
-        several.tie(0, 1, false, 0);
-        several.tie(1, 2, false, 0);
-        Due.is("2 and 2 against 3", Scene.votes(several), 0);
-        several.puppet(1, 1);
-        several.tie(2, 3, false, 0);
-        several.puppet(1, 1);
-        several.tie(4, 3, false, 0);
-        Due.is("2 and 2 against 3, 1 and 1", Scene.votes(several), 31);
-        StringVotes unlike = Scene.puppets(5, 1, 5, 1);
-        unlike.tie(0, 1, true, 0);
-        Due.is("sums alike, unlike", Scene.votes(unlike), 1);
+    static void sentences() {
+        pullTerms();
+        pull();
+        pullErrors();
+        release();
+        releaseErrors();
+        speaker();
+        bill();
+        behindSession();
+        session();
+        sessionErrors();
+        set();
     }
 
-    private static void promise6Pull() {
-        StringVotes x = Scene.puppets(1, 0, 2, 0, 4, 1);
-        Due.is("pull(1, 1)", x.pull(1, 1), 6);
-        Due.is("pull(2, 0)", x.pull(2, 0), 2);
-        Due.is("pull(1, 0), the other vote", x.pull(1, 0), 0);
-        Due.is("pull(1, 0), the same vote", x.pull(1, 0), 0);
-        Due.is("to what it is pulled", x.puppetOf(1, 2), 0);
-        Due.is("those pulled", x.count(9), 6);
-        Due.is("pull(-1, 0)", x.pull(-1, 0), Scene.INVALID);
-        Due.is("pull(3, 0)", x.pull(3, 0), Scene.INVALID);
-        Due.is("pull(1, -1)", x.pull(1, -1), Scene.INVALID);
-        Due.is("pull(1, 2)", x.pull(1, 2), Scene.INVALID);
-        Due.is("the speaker to a wrong vote", x.pull(0, 2), Scene.INVALID);
-        Due.is("the speaker", x.pull(0, 1), Scene.IMPOSSIBLE);
-        Due.is("refused ones pull nothing", x.count(9), 6);
-        x.session();
-        Due.is("the next speaker", x.pull(1, 1), Scene.IMPOSSIBLE);
-        Due.is("the former speaker", x.pull(0, 1), 5);
+    private static void pullTerms() {
+        Due.sentence(6, "A puppet can be pulled to a vote, for the next session.", () -> {
+            StringVotes x = Scene.puppets(1, 0, 2, 0, 4, 1);
+            x.pull(1, 1);
+            x.pull(2, 0);
+            Due.is("pulled", x.count(9), 6);
+            x.session();
+            Due.is("in the session", x.book(0, 0), 2);
+            x.session();
+            Due.is("in the one behind it", x.book(0, 0), 4);
+        });
+        Due.sentence(6, "(One that is pulled can be pulled to the other vote.)", () -> {
+            StringVotes x = Scene.puppets(1, 0, 2, 0, 4, 0, 8, 0);
+            x.set(0, 1);
+            Due.is("to yes", x.pull(1, 1), 2);
+            Due.is("to no, where the bound is reached", x.pull(1, 0), 0);
+            Due.is("to what it is pulled", x.puppetOf(1, 2), 0);
+            Due.is("to yes again", x.pull(1, 1), 2);
+            Due.is("one is pulled", x.count(9), 2);
+            Due.is("to the same vote", x.pull(1, 1), 2);
+        });
+        Due.sentence(6, "In a group with a puppet that is pulled, all vote by that.", () -> {
+            StringVotes x = Scene.puppets(1, 0, 2, 0, 4, 0, 8, 0, 9, 1);
+            x.tie(1, 2, true, 0);
+            x.tie(2, 3, false, 0);
+            Due.is("by the greater sum", Scene.votes(x), 18);
+            x.pull(3, 1);
+            Due.is("by the pull of the highest to yes", Scene.votes(x), 28);
+            x.pull(3, 0);
+            Due.is("by its pull to no", Scene.votes(x), 18);
+            x.release(3);
+            x.pull(1, 0);
+            Due.is("by the pull of the lowest to no", Scene.votes(x), 28);
+            x.tie(4, 1, false, 0);
+            Due.is("one that is tied to them votes by it, too", Scene.votes(x), 12);
+        });
+        Due.sentence(6, "In a group with a puppet that is pulled, all vote by that.", () -> {
+            StringVotes x = Scene.puppets(1, 0, 2, 0);
+            x.tie(0, 1, true, 0);
+            x.pull(1, 0);
+            Due.is("the speaker's group", Scene.votes(x), 1);
+            x.pull(1, 1);
+            Due.is("and the other way", Scene.votes(x), 2);
+        });
     }
 
-    private static void promise6PullTurnsGroup() {
-        StringVotes x = Scene.puppets(1, 0, 2, 0, 4, 0, 8, 0);
-        x.tie(1, 2, true, 0);
-        x.tie(2, 3, false, 0);
-        Due.is("by the greater sum", Scene.votes(x), 2);
-        Due.is("pull(3, 1)", x.pull(3, 1), 12);
-        Due.is("all vote by that", Scene.votes(x), 12);
-        Due.is("one that does not fit", x.pull(1, 1), Scene.IMPOSSIBLE);
-        Due.is("one that fits", x.pull(1, 0), 12);
-        Due.is("neither can be turned then", x.pull(3, 0), Scene.IMPOSSIBLE);
-        StringVotes speaker = Scene.puppets(1, 0, 2, 0);
-        speaker.tie(0, 1, true, 0);
-        Due.is("the speaker's group can be turned", speaker.pull(1, 0), 1);
-        Due.is("the speaker votes by it", Scene.votes(speaker), 1);
+    private static void pull() {
+        Due.sentence(6, "A vote or a leaning is 1 for yes and 0 for no.", () -> {
+            StringVotes x = Scene.puppets(9, 0, 1, 0, 2, 1);
+            Due.is("to yes", x.pull(1, 1), 3);
+            Due.is("to no", x.pull(2, 0), 1);
+            Due.is("told as yes", x.puppetOf(1, 2), 1);
+            Due.is("told as no", x.puppetOf(2, 2), 0);
+        });
+        Due.sentence(6, "Pulls a puppet to a vote.", () -> {
+            StringVotes x = Scene.alike(12, 1, 0);
+            x.pull(11, 1);
+            Due.is("pulled", x.count(9), 2048);
+            Due.is("to yes", x.puppetOf(11, 2), 1);
+            Due.is("it votes so", x.puppetOf(11, 3), 1);
+            Due.is("its leaning stays", x.puppetOf(11, 1), 0);
+        });
+        Due.sentence(6, "`puppet`: number of the puppet", () -> {
+            StringVotes x = Scene.alike(3, 1, 0);
+            for (int puppet : Scene.outside(0, 2)) {
+                Due.is("pull(" + puppet + ", 1)", x.pull(puppet, 1), Scene.INVALID);
+            }
+            Due.is("the last one", x.pull(2, 1), 1);
+            x.session();
+            Due.is("the first one, where it isn't the speaker", x.pull(0, 1), 1);
+        });
+        Due.sentence(6, "`vote`: 0 or 1", () -> {
+            StringVotes x = Scene.alike(2, 1, 1);
+            for (int vote : Scene.outside(0, 1)) {
+                Due.is("pull(1, " + vote + ")", x.pull(1, vote), Scene.INVALID);
+            }
+            Due.is("pull(1, 0)", x.pull(1, 0), 1);
+            Due.is("pull(1, 1)", x.pull(1, 1), 2);
+        });
+        Due.sentence(6, "Returns the seats that would vote yes then", () -> {
+            StringVotes x = Scene.alike(12, 9, 0);
+            for (int puppet = 1; puppet < 12; puppet++) {
+                x.tie(puppet - 1, puppet, false, 0);
+            }
+            Due.is("all of them", x.pull(11, 1), 108);
+            Due.is("none of them", x.pull(11, 0), 0);
+            StringVotes turned = Scene.puppets(1, 1, 2, 0, 4, 0);
+            turned.tie(1, 2, true, 0);
+            Due.is("with the others", turned.pull(1, 1), 3);
+            Due.is("and turned", turned.pull(1, 0), 5);
+            Due.is("as count tells", turned.count(5), 5);
+        });
     }
 
-    private static void promise6PullBound() {
-        StringVotes x = Scene.alike(6, 1, 0);
-        Due.is("the first", x.pull(1, 1), 1);
-        Due.is("the second", x.pull(2, 1), 2);
-        Due.is("the third", x.pull(3, 1), 3);
-        Due.is("the fourth", x.pull(4, 1), Scene.IMPOSSIBLE);
-        Due.is("one of the three", x.pull(3, 0), 2);
-        x.release(1);
-        Due.is("room again", x.pull(4, 1), 2);
-        x.set(0, 2);
-        Due.is("more are pulled than the bound", x.count(9), 28);
-        Due.is("one of them, then", x.pull(4, 0), Scene.IMPOSSIBLE);
-        x.set(0, 0);
-        x.session();
-        Due.is("bound 0", x.pull(4, 1), Scene.IMPOSSIBLE);
-        x.set(0, 12);
-        for (int puppet = 0; puppet < 6; puppet++) {
-            Due.is("bound 12, all but the speaker", x.pull(puppet, 1),
-                puppet == 1 ? Scene.IMPOSSIBLE : puppet == 0 ? 1 : puppet);
-        }
+    private static void pullErrors() {
+        Due.sentence(6, "INVALID_ARGUMENT if an argument is out of range", () -> {
+            StringVotes none = new StringVotes();
+            Due.is("without puppets", none.pull(0, 0), Scene.INVALID);
+            StringVotes x = Scene.alike(2, 1, 0);
+            Due.is("both", x.pull(2, 2), Scene.INVALID);
+            Due.is("the speaker to a wrong vote", x.pull(0, 2), Scene.INVALID);
+            x.set(0, 0);
+            Due.is("a wrong vote, and the bound", x.pull(1, -1), Scene.INVALID);
+            Due.is("none is pulled", x.count(9), 0);
+        });
+        Due.sentence(6, "NOT_POSSIBLE for the reasons of whyPull()", () -> {
+            StringVotes x = Scene.alike(6, 1, 0);
+            x.tie(1, 2, true, 0);
+            x.tie(3, 0, true, 0);
+            x.set(0, 2);
+            x.pull(2, 1);
+            x.pull(3, 1);
+            int[] reasons = new int[4];
+            for (int puppet = 0; puppet < 6; puppet++) {
+                for (int vote = 0; vote <= 1; vote++) {
+                    int why = x.whyPull(puppet, vote);
+                    reasons[why]++;
+                    boolean isRefused = x.pull(puppet, vote) == Scene.IMPOSSIBLE;
+                    Due.holds("pull(" + puppet + ", " + vote + "), reason " + why, isRefused == (why != 0));
+                    if (!isRefused) {
+                        x.undo();
+                    }
+                }
+            }
+            Due.are("how many of each reason", reasons, 4, 2, 1, 5);
+            Due.is("pulled as before", x.count(9), 12);
+        });
     }
 
-    private static void promise7Release() {
-        StringVotes x = Scene.puppets(1, 0, 2, 0, 4, 1);
-        Due.is("not pulled", x.release(1), Scene.IMPOSSIBLE);
-        Due.is("release(-1)", x.release(-1), Scene.INVALID);
-        Due.is("release(3)", x.release(3), Scene.INVALID);
-        x.pull(1, 1);
-        x.pull(2, 0);
-        Due.is("from yes", x.release(1), 1);
-        Due.is("it votes as before", Scene.votes(x), 0);
-        Due.is("the other stays pulled", x.count(9), 4);
-        Due.is("from no", x.release(2), 0);
-        Due.is("none is pulled", x.count(9), 0);
-        Due.is("its vote is told no more", x.puppetOf(2, 2), Scene.NOTHING);
-        Due.is("released already", x.release(2), Scene.IMPOSSIBLE);
-        Due.is("all vote as before", Scene.votes(x), 4);
+    private static void release() {
+        Due.sentence(7, "Releases a puppet that is pulled.", () -> {
+            StringVotes x = Scene.puppets(1, 0, 2, 0, 4, 1);
+            x.pull(1, 1);
+            x.pull(2, 0);
+            x.release(1);
+            Due.is("the other stays pulled", x.count(9), 4);
+            Due.is("its pull is not there any more", x.puppetOf(1, 2), Scene.NOTHING);
+            Due.is("it votes as before", Scene.votes(x), 0);
+            x.release(2);
+            Due.is("none is pulled", x.count(9), 0);
+            Due.is("all vote as before", Scene.votes(x), 4);
+        });
+        Due.sentence(7, "Releases a puppet that is pulled.", () -> {
+            StringVotes x = Scene.puppets(1, 0, 2, 0, 4, 0);
+            x.tie(1, 2, false, 0);
+            x.pull(1, 1);
+            x.pull(2, 1);
+            x.release(1);
+            Due.is("the group votes by the other pull in it", Scene.votes(x), 6);
+            x.release(2);
+            Due.is("and without one as it leans", Scene.votes(x), 0);
+        });
+        Due.sentence(7, "`puppet`: number of the puppet", () -> {
+            StringVotes x = Scene.alike(12, 1, 0);
+            x.session();
+            x.pull(0, 1);
+            x.pull(11, 1);
+            for (int puppet : Scene.outside(0, 11)) {
+                Due.is("release(" + puppet + ")", x.release(puppet), Scene.INVALID);
+            }
+            Due.is("the last one", x.release(11), 1);
+            Due.is("the first one", x.release(0), 1);
+        });
+        Due.sentence(7, "Returns the vote to which it was pulled", () -> {
+            StringVotes x = Scene.alike(3, 1, 0);
+            x.pull(1, 1);
+            x.pull(2, 0);
+            Due.is("from yes", x.release(1), 1);
+            Due.is("from no", x.release(2), 0);
+            x.pull(1, 1);
+            x.pull(1, 0);
+            Due.is("from the latest one", x.release(1), 0);
+        });
     }
 
-    private static void promise8Session() {
-        StringVotes x = new StringVotes();
-        Due.is("without puppets", x.session(), Scene.IMPOSSIBLE);
-        Due.is("it was no change", x.count(13), 0);
-        x.puppet(3, 0);
-        x.puppet(2, 1);
-        x.puppet(2, 0);
-        Due.is("2 against 5", x.session(), 0);
-        Due.is("the next speaker", x.count(8), 1);
-        x.pull(0, 1);
-        Due.is("5 against 2", x.session(), 1);
-        Due.is("none is pulled any more", x.count(9), 0);
-        Due.is("the votes behind it", Scene.votes(x), 2);
-        Due.is("the speaker", x.count(8), 2);
-        Due.is("a third", x.session(), 0);
-        Due.is("behind the last one the puppet 0", x.count(8), 0);
-        Due.is("sessions", x.count(10), 3);
-        Due.is("passed", x.count(11), 1);
-        Due.is("in the book", x.count(12), 3);
-        StringVotes alone = Scene.puppets(1, 1);
-        Due.is("one alone", alone.session(), 1);
-        Due.is("it stays the speaker", alone.count(8), 0);
-        alone.puppet(1, 0);
-        Due.is("until another comes", alone.session() + alone.count(8), 2);
+    private static void releaseErrors() {
+        Due.sentence(7, "INVALID_ARGUMENT", () -> {
+            StringVotes x = new StringVotes();
+            Due.is("without puppets", x.release(0), Scene.INVALID);
+            x.puppet(1, 0);
+            Due.is("one behind the last one", x.release(1), Scene.INVALID);
+        });
+        Due.sentence(7, "NOT_POSSIBLE if it is not pulled", () -> {
+            StringVotes x = Scene.alike(3, 1, 0);
+            x.tie(1, 2, false, 0);
+            Due.is("never pulled", x.release(1), Scene.IMPOSSIBLE);
+            x.pull(1, 0);
+            Due.is("another one of its group is", x.release(2), Scene.IMPOSSIBLE);
+            Due.is("the speaker", x.release(0), Scene.IMPOSSIBLE);
+            x.release(1);
+            Due.is("released already", x.release(1), Scene.IMPOSSIBLE);
+            x.pull(1, 0);
+            x.session();
+            Due.is("behind a session", x.release(1), Scene.IMPOSSIBLE);
+        });
     }
 
-    private static void promise8SpeakerDecides() {
-        StringVotes x = Scene.puppets(2, 1, 2, 0);
-        Due.is("as many, the speaker votes yes", x.session(), 1);
-        Due.is("as many, the speaker votes no", x.session(), 0);
-        x.tie(0, 1, true, 0);
-        x.pull(1, 1);
-        Due.is("as many, the speaker is turned to no", x.session(), 0);
-        Due.is("the seats are told in the book", x.book(0, 0), 2);
+    private static void speaker() {
+        Due.sentence(8, "The speaker is the puppet 0 at first.", () -> {
+            StringVotes x = Scene.puppets(1, 0);
+            Due.is("of one", x.count(8), 0);
+            x.puppet(9, 1);
+            Due.is("of two", x.count(8), 0);
+        });
+        Due.sentence(8, "and the next puppet is the speaker, by the numbers, behind the last one the puppet 0", () -> {
+            StringVotes x = Scene.alike(12, 1, 0);
+            for (int i = 1; i <= 25; i++) {
+                x.session();
+                Due.is("behind the session " + i, x.count(8), i % 12);
+            }
+        });
+        Due.sentence(8, "behind the last one the puppet 0", () -> {
+            StringVotes x = Scene.puppets(1, 1);
+            x.session();
+            Due.is("of one alone", x.count(8), 0);
+            x.puppet(1, 0);
+            x.session();
+            Due.is("the second one", x.count(8), 1);
+            x.puppet(1, 0);
+            x.session();
+            Due.is("one that has come behind the speaker", x.count(8), 2);
+            x.session();
+            Due.is("behind it the first", x.count(8), 0);
+        });
     }
 
-    private static void promise8SessionLimit() {
-        StringVotes x = Scene.puppets(1, 1, 1, 1);
-        Scene.write(x, "v;v;v;v;v;v;v;v;v;v;v;v;v;v;v;v;v;v;v;v;v;v;v;v;v;v;v;v;v;v;");
-        for (int i = 0; i < 33; i++) {
-            Due.is("30 sessions", x.play(), 30);
-        }
-        Due.is("990 sessions", x.count(10), 990);
-        Due.is("the text has a fault", x.fault(0), 18);
-        Due.is("its reason", x.fault(1), 2);
-        Due.is("its cause", x.fault(2), Scene.LIMIT);
-        Due.is("it can't be played", x.play(), Scene.IMPOSSIBLE);
-        for (int i = 0; i < 9; i++) {
-            Due.is("one of the last", x.session(), 1);
-        }
-        Due.is("999 sessions", x.count(10), 999);
-        Due.is("all passed", x.count(11), 999);
-        Due.is("the 1000th", x.session(), Scene.LIMIT);
-        Due.is("still 999", x.count(10), 999);
-        Due.is("8 are kept", x.count(12), 8);
-        Due.is("the speaker stays", x.count(8), 1);
+    private static void bill() {
+        String words = "A bill is passed if the seats of those who vote yes are more than those of no, "
+            + "or as many, and the speaker votes yes.";
+        Due.sentence(8, words, () -> {
+            Due.is("9 against 8, the speaker votes no", Scene.puppets(8, 0, 9, 1).session(), 1);
+            Due.is("8 against 9, the speaker votes yes", Scene.puppets(8, 1, 9, 0).session(), 0);
+            Due.is("1 against 0", Scene.puppets(1, 1).session(), 1);
+            Due.is("0 against 1", Scene.puppets(1, 0).session(), 0);
+            Due.is("108 against 0", Scene.alike(12, 9, 1).session(), 1);
+        });
+        Due.sentence(8, words, () -> {
+            StringVotes x = Scene.puppets(2, 1, 2, 0);
+            Due.is("as many, the speaker votes yes", x.session(), 1);
+            Due.is("as many, the speaker votes no", x.session(), 0);
+            x.tie(0, 1, true, 0);
+            x.pull(1, 1);
+            Due.is("as many, the speaker is turned to no", x.session(), 0);
+            x.session();
+            x.pull(1, 0);
+            Due.is("as many, the speaker is turned to yes", x.session(), 1);
+        });
     }
 
-    private static void promise9Set() {
-        StringVotes x = new StringVotes();
-        Due.is("set(0, 12)", x.set(0, 12), 3);
-        Due.is("set(0, 0)", x.set(0, 0), 12);
-        Due.is("set(0, 0) again", x.set(0, 0), 0);
-        Due.is("it is a change, too", x.count(13), 3);
-        Due.is("set(0, 13)", x.set(0, 13), Scene.INVALID);
-        Due.is("set(0, -1)", x.set(0, -1), Scene.INVALID);
-        Due.is("set(1, 3)", x.set(1, 3), Scene.INVALID);
-        Due.is("set(-1, 3)", x.set(-1, 3), Scene.INVALID);
-        Due.is("the setting", x.count(20), 0);
-        Due.is("refused ones are no change", x.count(13), 3);
-        x.undo();
-        x.undo();
-        Due.is("undone", x.count(20), 12);
+    private static void behindSession() {
+        Due.sentence(8, "Behind a session no puppet is pulled any more", () -> {
+            StringVotes x = Scene.alike(12, 1, 0);
+            x.set(0, 12);
+            for (int puppet = 1; puppet < 12; puppet++) {
+                x.pull(puppet, 1);
+            }
+            Due.is("all but the speaker", x.count(9), 4094);
+            x.session();
+            Due.is("in the session", x.book(0, 0), 11);
+            Due.is("none", x.count(9), 0);
+            Due.is("the first", x.puppetOf(1, 2), Scene.NOTHING);
+            Due.is("the last", x.puppetOf(11, 2), Scene.NOTHING);
+            Due.is("the votes", Scene.votes(x), 0);
+            Due.is("the strings and the setting stay", x.count(20), 12);
+        });
+    }
+
+    private static void session() {
+        Due.sentence(8, "A session: a bill is passed, or not.", () -> {
+            StringVotes x = Scene.puppets(3, 1, 2, 0);
+            x.session();
+            Due.is("sessions", x.count(10), 1);
+            Due.is("passed", x.count(11), 1);
+            x.pull(0, 0);
+            x.session();
+            Due.is("sessions then", x.count(10), 2);
+            Due.is("passed then", x.count(11), 1);
+            Due.is("in the book", x.count(12), 2);
+        });
+        Due.sentence(8, "Returns 1 if it is passed, otherwise 0", () -> {
+            StringVotes x = Scene.puppets(3, 1, 4, 0, 2, 0);
+            Due.is("3 against 6", x.session(), 0);
+            x.pull(2, 1);
+            Due.is("5 against 4", x.session(), 1);
+        });
+    }
+
+    private static void sessionErrors() {
+        Due.sentence(8, "NOT_POSSIBLE without puppets", () -> {
+            StringVotes x = new StringVotes();
+            Due.is("a new one", x.session(), Scene.IMPOSSIBLE);
+            Due.is("no session", x.count(10), 0);
+            Due.is("no change", x.count(13), 0);
+            x.puppet(1, 0);
+            Due.is("with one", x.session(), 0);
+            x.undo();
+            x.undo();
+            Due.is("undone", x.session(), Scene.IMPOSSIBLE);
+        });
+        Due.sentence(8, "LIMIT_REACHED if there were 999", () -> {
+            StringVotes x = Scene.puppets(1, 1, 1, 1);
+            Scene.write(x, THIRTY_SESSIONS);
+            for (int i = 0; i < 33; i++) {
+                Due.is("30 sessions", x.play(), 30);
+            }
+            for (int i = 0; i < 9; i++) {
+                Due.is("one of the last", x.session(), 1);
+            }
+            Due.is("the 1000th", x.session(), Scene.LIMIT);
+            Due.is("999 sessions", x.count(10), 999);
+            Due.is("all passed", x.count(11), 999);
+            Due.is("the speaker stays", x.count(8), 1);
+            Due.is("8 are kept", x.count(12), 8);
+            Due.is("the latest one's speaker", x.book(0, 3), 0);
+            x.undo();
+            Due.is("998, so that there is one more", x.session(), 1);
+            Due.is("and no more", x.session(), Scene.LIMIT);
+        });
+    }
+
+    private static void set() {
+        Due.sentence(9, "The setting is (in parentheses: range; first value): 0 pulls (0 to 12; 3)", () -> {
+            StringVotes x = Scene.alike(12, 1, 0);
+            Due.is("at first", x.count(20), 3);
+            for (int puppet = 1; puppet <= 3; puppet++) {
+                Due.is("pull " + puppet, x.pull(puppet, 1), puppet);
+            }
+            Due.is("the fourth", x.pull(4, 1), Scene.IMPOSSIBLE);
+            x.set(0, 12);
+            for (int puppet = 4; puppet <= 11; puppet++) {
+                Due.is("pull " + puppet, x.pull(puppet, 1), puppet);
+            }
+            x.session();
+            x.set(0, 0);
+            Due.is("none", x.pull(0, 1), Scene.IMPOSSIBLE);
+        });
+        Due.sentence(9, "Sets the setting.", () -> {
+            StringVotes x = Scene.alike(4, 1, 0);
+            x.set(0, 2);
+            Due.is("the setting", x.count(20), 2);
+            x.pull(1, 1);
+            x.pull(2, 1);
+            x.set(0, 1);
+            Due.is("those pulled stay so", x.count(9), 6);
+            Due.is("one of them is one of two, then", x.pull(1, 0), Scene.IMPOSSIBLE);
+            x.release(2);
+            Due.is("the one that is left", x.pull(1, 0), 0);
+        });
+        Due.sentence(9, "`what`: 0", () -> {
+            StringVotes x = new StringVotes();
+            for (int what : Scene.outside(0, 0)) {
+                Due.is("set(" + what + ", 3)", x.set(what, 3), Scene.INVALID);
+            }
+        });
+        Due.sentence(9, "`value`: a value in its range", () -> {
+            StringVotes x = new StringVotes();
+            for (int value : Scene.outside(0, 12)) {
+                Due.is("set(0, " + value + ")", x.set(0, value), Scene.INVALID);
+            }
+            Due.is("the setting", x.count(20), 3);
+            Due.is("the greatest", x.set(0, 12), 3);
+            Due.is("the least", x.set(0, 0), 12);
+        });
+        Due.sentence(9, "Returns what it was", () -> {
+            StringVotes x = new StringVotes();
+            int was = 3;
+            for (int value = 0; value <= 12; value++) {
+                Due.is("set(0, " + value + ")", x.set(0, value), was);
+                was = value;
+            }
+            Due.is("to what it is", x.set(0, 12), 12);
+        });
+        Due.sentence(9, "INVALID_ARGUMENT if an argument is out of range", () -> {
+            StringVotes x = new StringVotes();
+            Due.is("both", x.set(1, 13), Scene.INVALID);
+            Due.is("the setting stays", x.count(20), 3);
+            Due.is("no change", x.count(13), 0);
+        });
     }
 }

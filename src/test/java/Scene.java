@@ -53,6 +53,11 @@ final class Scene {
         write(x, text);
     }
 
+    /** The numbers next to a range, on both sides, and the ends of all numbers. */
+    static int[] outside(int least, int most) {
+        return new int[] {Integer.MIN_VALUE, least - 1, most + 1, Integer.MAX_VALUE};
+    }
+
     /** The votes of all puppets as a set. */
     static int votes(StringVotes x) {
         int set = 0;
