@@ -1,6 +1,7 @@
 /** Promises 20 and 21: count, undo; and what a change records, for all calls. */
 public final class CountUndoTest {
     private static final int KINDS_OF_CHANGE = 9;
+    private static final int KINDS_OF_TRIAL = 6;
 
     public static void main(String[] args) {
         sentences();
@@ -331,7 +332,7 @@ public final class CountUndoTest {
         });
         Due.sentence(21, "A call that returns an error changes nothing.", () -> {
             StringVotes x = Scene.full();
-            Scene.write(x, "v;v;v;v;v;v;v;v;v;v;v;v;v;v;v;v;v;v;v;v;v;v;v;v;v;v;v;v;v;v;");
+            Scene.write(x, Scene.THIRTY_SESSIONS);
             Due.is("a 13th puppet", x.puppet(1, 0), Scene.LIMIT);
             Due.is("a 21st string", x.tie(0, 11, false, 0), Scene.LIMIT);
             Due.is("a 61st character", x.type('v'), Scene.LIMIT);
@@ -342,20 +343,34 @@ public final class CountUndoTest {
             Due.is("19 strings", x.count(1), 19);
         });
         Due.sentence(21, "A call that returns an error changes nothing.", () -> {
-            for (int kind = 0; kind < KINDS_OF_CHANGE; kind++) {
+            for (int kind = 0; kind < KINDS_OF_CHANGE * KINDS_OF_TRIAL; kind++) {
                 StringVotes x = rich();
                 StringVotes same = rich();
-                // What a question or a refused change tries out must not get into the next change.
-                x.fault(0);
-                x.ifCut(0, 0);
-                x.stringOf(1, 4);
-                x.bestPull(0);
-                x.pull(2, 2);
-                x.cutDeal(4);
-                Due.is("the change " + kind, change(x, kind), change(same, kind));
-                Due.holds("all behind it, " + kind, Scene.same(Scene.all(x, true), Scene.all(same, true)));
+                tryOut(x, kind / KINDS_OF_CHANGE);
+                String what = "the change " + kind % KINDS_OF_CHANGE + " behind the trial " + kind / KINDS_OF_CHANGE;
+                Due.is(what, change(x, kind % KINDS_OF_CHANGE), change(same, kind % KINDS_OF_CHANGE));
+                Due.holds("all behind " + what, Scene.same(Scene.all(x, true), Scene.all(same, true)));
             }
         });
+    }
+
+    /** Calls that may try out changes; these must not get into the next change. */
+    private static void tryOut(StringVotes x, int kind) {
+        switch (kind) {
+            case 0: x.fault(0); break;
+            case 1: x.ifCut(0, 0); break;
+            case 2: x.stringOf(1, 4); break;
+            case 3: x.bestPull(0); break;
+            case 4:
+                Scene.rewrite(x, "v;v;c0;x");
+                x.play();
+                Scene.rewrite(x, "y0;v;");
+                break;
+            default:
+                x.cutDeal(4);
+                x.tie(3, 4, true, 0);
+                break;
+        }
     }
 
     private static void errorsInOrder() {
@@ -377,7 +392,7 @@ public final class CountUndoTest {
         Due.sentence(20, "and LIMIT_REACHED rather than NOT_FOUND", () -> {
             // No call has both; so what has NOT_FOUND stays with it where all limits are reached.
             StringVotes x = Scene.full();
-            Scene.write(x, "v;v;v;v;v;v;v;v;v;v;v;v;v;v;v;v;v;v;v;v;v;v;v;v;v;v;v;v;v;v;");
+            Scene.write(x, Scene.THIRTY_SESSIONS);
             Due.is("the limits", x.puppet(1, 0) + x.tie(0, 11, false, 0) + x.type('v'), 3 * Scene.LIMIT);
             Due.is("fault", x.fault(0), Scene.NOTHING);
             Due.is("book", x.book(0, 0), Scene.NOTHING);

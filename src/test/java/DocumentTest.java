@@ -19,8 +19,8 @@ public final class DocumentTest {
     /** A call's signature, which FaceTest compares. */
     private static final Pattern SIGNATURE = Pattern.compile("^`[^`]*\\)`: ", Pattern.MULTILINE);
     /** Lines that promise nothing: headings, and what the interface says in its comments. */
-    private static final Pattern NO_PROMISE = Pattern.compile("^(### .*|A puppet parliament .*|Puppets, strings|Pulls, votes"
-        + "|Ahead of the calls .* the interface says: ---- .*)$", Pattern.MULTILINE);
+    private static final Pattern NO_PROMISE = Pattern.compile("^(### .*|A puppet parliament .*|Puppets, strings"
+        + "|Pulls, votes|Ahead of the calls .* the interface says: ---- .*)$", Pattern.MULTILINE);
     /** Words that promise nothing that a call could answer otherwise. */
     private static final String[] WITHOUT_A_TEST = {
         "All numbers are whole numbers, where no float is told.",

@@ -27,8 +27,8 @@ public final class FaceTest {
     }
 
     static void sentences() {
-        Due.sentence(Due.ALL, "`INVALID_ARGUMENT = -1000001`: An argument is out of its range, or there is no such puppet "
-            + "or string.", () -> {
+        Due.sentence(Due.ALL, "`INVALID_ARGUMENT = -1000001`: An argument is out of its range, or there is "
+            + "no such puppet or string.", () -> {
             Due.is("INVALID_ARGUMENT", StringVotes.INVALID_ARGUMENT, -1000001);
             Due.is("an argument", new StringVotes().puppet(0, 0), -1000001);
             Due.is("no such puppet", new StringVotes().pull(0, 0), -1000001);

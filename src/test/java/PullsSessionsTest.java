@@ -1,7 +1,5 @@
 /** Promises 6 to 9: pull, release, session, set. */
 public final class PullsSessionsTest {
-    private static final String THIRTY_SESSIONS = "v;v;v;v;v;v;v;v;v;v;v;v;v;v;v;v;v;v;v;v;v;v;v;v;v;v;v;v;v;v;";
-
     public static void main(String[] args) {
         sentences();
         Due.end("PullsSessionsTest");
@@ -322,7 +320,7 @@ public final class PullsSessionsTest {
         });
         Due.sentence(8, "LIMIT_REACHED if there were 999", () -> {
             StringVotes x = Scene.puppets(1, 1, 1, 1);
-            Scene.write(x, THIRTY_SESSIONS);
+            Scene.write(x, Scene.THIRTY_SESSIONS);
             for (int i = 0; i < 33; i++) {
                 Due.is("30 sessions", x.play(), 30);
             }

@@ -309,6 +309,14 @@ public final class PuppetsStringsTest {
             Due.is("a pull stays", x.puppetOf(1, 2), 1);
             Due.is("those that are not tied to it any more vote as they lean", Scene.votes(x), 2);
         });
+        Due.sentence(4, "Cuts a string.", () -> {
+            StringVotes x = Scene.full();
+            Due.is("by the last of 20", x.between(8, 10), 1);
+            x.cut(19);
+            Due.is("by two others", x.between(8, 10), 2);
+            Due.is("it can be tied again", x.whyTie(8, 10, false), 0);
+            Due.is("as the last of 20", x.tie(10, 8, false, 5), 19);
+        });
         Due.sentence(4, "`string`: number of the string", () -> {
             StringVotes x = Scene.full();
             for (int string : Scene.outside(0, 19)) {

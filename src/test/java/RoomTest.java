@@ -13,7 +13,7 @@ public final class RoomTest {
         ThreadMXBean threads = (ThreadMXBean) ManagementFactory.getThreadMXBean();
         long thread = Thread.currentThread().getId();
         StringVotes x = Scene.full();
-        Scene.write(x, "v;v;v;v;v;v;v;v;v;v;v;v;v;v;v;v;v;v;v;v;v;v;v;v;v;v;v;v;v;v;");
+        Scene.write(x, Scene.THIRTY_SESSIONS);
         all(x);
         long before = threads.getThreadAllocatedBytes(thread);
         for (int round = 0; round < ROUNDS; round++) {

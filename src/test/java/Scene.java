@@ -8,6 +8,8 @@ final class Scene {
     static final int IMPOSSIBLE = StringVotes.NOT_POSSIBLE;
     static final int LIMIT = StringVotes.LIMIT_REACHED;
     static final int NOTHING = StringVotes.NOT_FOUND;
+    /** 60 characters. */
+    static final String THIRTY_SESSIONS = "v;v;v;v;v;v;v;v;v;v;v;v;v;v;v;v;v;v;v;v;v;v;v;v;v;v;v;v;v;v;";
     static final int[] COUNTS = {0, 1, 2, 3, 4, 5, 6, 7, 8, 9, 10, 11, 12, 13, 14, 15, 20};
 
     private Scene() {

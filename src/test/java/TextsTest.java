@@ -276,7 +276,7 @@ public final class TextsTest {
             Due.is("the 21st string, position", full.fault(0), 11);
             Due.is("the 21st string, cause", full.fault(2), Scene.LIMIT);
             StringVotes many = Scene.puppets(1, 1);
-            Scene.write(many, "v;v;v;v;v;v;v;v;v;v;v;v;v;v;v;v;v;v;v;v;v;v;v;v;v;v;v;v;v;v;");
+            Scene.write(many, Scene.THIRTY_SESSIONS);
             for (int i = 0; i < 33; i++) {
                 many.play();
             }
@@ -429,7 +429,7 @@ public final class TextsTest {
             StringVotes x = Scene.puppets(1, 1);
             plays(x, "", 0);
             plays(x, "v;", 1);
-            plays(x, "v;v;v;v;v;v;v;v;v;v;v;v;v;v;v;v;v;v;v;v;v;v;v;v;v;v;v;v;v;v;", 30);
+            plays(x, Scene.THIRTY_SESSIONS, 30);
         });
     }
 

@@ -165,6 +165,12 @@ public final class WhatWouldBeTest {
             Due.is("this one itself, to no", x.whyPull(2, 0), 0);
             x.pull(3, 1);
             Due.is("this one, as another one is pulled, too", x.whyPull(2, 0), 2);
+            x.release(3);
+            x.pull(2, 0);
+            Due.is("like one pulled to no, to yes", x.whyPull(3, 1), 2);
+            Due.is("like one pulled to no, to no", x.whyPull(3, 0), 0);
+            Due.is("unlike one pulled to no, to yes", x.whyPull(1, 1), 0);
+            Due.is("unlike one pulled to no, to no", x.whyPull(1, 0), 2);
         });
         Due.sentence(15, "It is not pulled for the first of these reasons that is so", () -> {
             StringVotes x = Scene.alike(3, 1, 0);
@@ -345,6 +351,21 @@ public final class WhatWouldBeTest {
             }
             bothWays("28 against 9", Scene.puppets(9, 0, 9, 0, 9, 0, 9, 1, 1, 0), 2);
             bothWays("all 12 are in no, alike", Scene.alike(12, 1, 0), 7);
+            StringVotes last = Scene.alike(6, 1, 1);
+            for (int i = 0; i < 5; i++) {
+                last.puppet(1, 0);
+            }
+            last.puppet(9, 0);
+            bothWays("the last of 12 groups, 6 to 14", last, 1);
+            StringVotes threes = Scene.puppets(9, 1);
+            for (int i = 0; i < 9; i++) {
+                threes.puppet(3, 0);
+            }
+            bothWays("9 to 27, where the group that votes yes would bring most seats", threes, 4);
+            StringVotes less = Scene.puppets(5, 0, 5, 0, 5, 0, 9, 0);
+            bothWays("9 and 5 of 24", less, 2);
+            less.undo();
+            bothWays("5 and 5 of 15, the 9 is not there any more", less, 2);
         });
         Due.sentence(17, "so that the seats of yes are more than those of no", () -> {
             bothWays("8 to 8, by one, is not enough", Scene.puppets(8, 0, 7, 0, 1, 0), 2);
